@@ -426,8 +426,13 @@ public final class PilotRoster {
         int latest = 0;
         for (int item = 0; item < items && reason == ACCEPTED; item++) {
             text.nextItem();
-            reason = carryOutItem();
             latest = item;
+            switch (text.kind) {
+                case 's': reason = carryOutServe(text.first); break;
+                case 'd': reason = carryOutPutOff(text.first, text.second); break;
+                case 'w': reason = carryOutPass(text.first); break;
+                default: reason = carryOutOrder(text.kind == 'o' ? OUTWARD : INWARD); break;
+            }
         }
         text.clear();
         if (reason != ACCEPTED) {
@@ -516,16 +521,6 @@ public final class PilotRoster {
     private void keepRefusal(int reason, int item) {
         keptReason = reason;
         keptItem = item;
-    }
-
-    private int carryOutItem() {
-        switch (text.kind) {
-            case 's': return carryOutServe(text.first);
-            case 'd': return carryOutPutOff(text.first, text.second);
-            case 'w': return carryOutPass(text.first);
-            case 'i': return carryOutOrder(INWARD);
-            default: return carryOutOrder(OUTWARD);
-        }
     }
 
     private int carryOutServe(int order) {

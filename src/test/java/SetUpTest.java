@@ -14,7 +14,6 @@ public final class SetUpTest {
         promise6AddBoat();
         promise7Order();
         promise7OrderWrong();
-        promise7FirstExceptionWins();
         promise8OrderOf();
         promise8OrderOfPlan();
         promise9Window();
@@ -185,14 +184,6 @@ public final class SetUpTest {
         CHECK.same("changes", 2, x.number(12));
     }
 
-    private static void promise7FirstExceptionWins() {
-        PilotRoster x = new PilotRoster();
-        CHECK.fails("window of nothing", IndexOutOfBoundsException.class, () -> x.window(0, 0));
-        x.order(1, true, 30, 0, 10);
-        CHECK.fails("window from no hour", IndexOutOfBoundsException.class,
-                () -> x.window(0, 1000));
-    }
-
     private static void promise8OrderOf() {
         PilotRoster x = new PilotRoster();
         x.order(3, true, 12, 1, 20);
@@ -250,6 +241,7 @@ public final class SetUpTest {
         CHECK.fails("window(0, -1)", IndexOutOfBoundsException.class, () -> x.window(0, -1));
         CHECK.fails("window(1, 0)", IndexOutOfBoundsException.class, () -> x.window(1, 0));
         CHECK.fails("window(-1, 0)", IndexOutOfBoundsException.class, () -> x.window(-1, 0));
+        CHECK.fails("window(1, 1000)", IndexOutOfBoundsException.class, () -> x.window(1, 1000));
         x.order(1, true, 30, 0, 900);
         CHECK.fails("no window", NoSuchElementException.class, () -> x.window(1, 0));
         CHECK.same("hours of no window", 0, x.orderOf(1, 10));

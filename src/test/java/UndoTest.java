@@ -1,0 +1,220 @@
+/** Promises 32 to 34: undo, snapshots. */
+public final class UndoTest {
+    private static final Check CHECK = new Check("UndoTest");
+
+    public static void main(String[] args) {
+        promise32Undo();
+        promise32UndoOfEachChange();
+        promise32WhatIsNoChange();
+        promise32OfForgottenChanges();
+        promise33SaveSnapshot();
+        promise34RestoreSnapshot();
+        promise34RestoresAll();
+        CHECK.end();
+    }
+
+    private static void feed(PilotRoster x, String text) {
+        for (int k = 0; k < text.length(); k++) {
+            x.feed(text.charAt(k));
+        }
+    }
+
+    /** All that can be asked of the state, without what is neither undone nor saved. */
+    private static String told(PilotRoster x) {
+        StringBuilder all = new StringBuilder();
+        for (int what = 0; what <= 41; what++) {
+            if (what <= 11 || what >= 20 && what <= 24 || what >= 30) {
+                all.append(x.number(what)).append(' ');
+            }
+        }
+        int orders = x.number(0) + x.number(1) + x.number(2) + x.number(3);
+        for (int order = 0; order < orders; order++) {
+            for (int what = 0; what <= 10; what++) {
+                all.append(x.orderOf(order, what)).append(' ');
+            }
+        }
+        for (int pilot = 0; pilot < x.number(5); pilot++) {
+            for (int what = 0; what <= 6; what++) {
+                all.append(x.pilot(pilot, what)).append(' ');
+            }
+            for (int i = 0; i < x.pilot(pilot, 3); i++) {
+                for (int what = 0; what <= 4; what++) {
+                    all.append(x.planOf(pilot, i, what)).append(' ');
+                }
+            }
+        }
+        for (int boat = 0; boat < x.number(6); boat++) {
+            for (int what = 0; what <= 4; what++) {
+                all.append(x.boat(boat, what)).append(' ');
+            }
+        }
+        return all.toString();
+    }
+
+    private static PilotRoster example() {
+        PilotRoster x = new PilotRoster();
+        x.addPilot(2);
+        x.addPilot(2);
+        x.addBoat(2);
+        x.order(1, true, 5, 4, 90);
+        x.order(2, false, 5, 9, 90);
+        x.order(2, true, 5, 2, 20);
+        x.plan(0, 0, 4);
+        return x;
+    }
+
+    private static void undone(PilotRoster x, String what, Runnable change) {
+        String ahead = told(x);
+        int changes = x.number(12);
+        change.run();
+        CHECK.isTrue(what + " changes something", !told(x).equals(ahead));
+        int count = Math.min(8, changes + 1);
+        CHECK.same("changes with " + what, count, x.number(12));
+        CHECK.same("undo of " + what, count - 1, x.undo());
+        CHECK.isTrue(what + " is undone", told(x).equals(ahead));
+        change.run();
+    }
+
+    private static void promise32UndoOfEachChange() {
+        PilotRoster x = example();
+        undone(x, "rule", () -> x.rule(0, 7));
+        undone(x, "tide", () -> x.tide(0, 7));
+        undone(x, "addPilot", () -> x.addPilot(3));
+        undone(x, "addBoat", () -> x.addBoat(3));
+        undone(x, "order", () -> x.order(1, false, 5, 0, 9));
+        undone(x, "plan", () -> x.plan(2, 1, 3));
+        undone(x, "run", () -> x.run(0, 3, 4));
+        undone(x, "release", () -> x.release(2));
+        undone(x, "putOff", () -> x.putOff(1, 5));
+        undone(x, "serve", () -> x.serve(1));
+        undone(x, "serveAll", () -> x.serveAll());
+        undone(x, "pass", () -> x.pass(48));
+        undone(x, "read", () -> {
+            feed(x, "w5;1o5@60-70;d4+1");
+            x.read();
+        });
+    }
+
+    private static void promise32Undo() {
+        PilotRoster x = new PilotRoster();
+        CHECK.fails("nothing to undo", IllegalStateException.class, () -> x.undo());
+        x.rule(0, 7);
+        x.tide(3, 9);
+        CHECK.same("undo", 1, x.undo());
+        CHECK.same("height", 3, x.number(33));
+        CHECK.same("rule", 7, x.number(20));
+        CHECK.same("undo", 0, x.undo());
+        CHECK.same("rule", 6, x.number(20));
+        CHECK.fails("nothing to undo", IllegalStateException.class, () -> x.undo());
+        x.addPilot(1);
+        x.order(1, true, 5, 0, 9);
+        x.plan(0, 0, 0);
+        x.undo();
+        x.undo();
+        x.undo();
+        CHECK.same("a pilot again", 0, x.addPilot(2));
+        CHECK.same("with an empty plan", 0, x.pilot(0, 3));
+        CHECK.same("an order again", 0, x.order(2, true, 5, 0, 9));
+        CHECK.same("which is open", 0, x.orderOf(0, 5));
+        CHECK.same("without a pilot", -1, x.orderOf(0, 6));
+    }
+
+    private static void promise32WhatIsNoChange() {
+        PilotRoster x = example();
+        CHECK.same("changes", 7, x.number(12));
+        x.rule(0, 6);
+        CHECK.same("a rule that stays as it is", 8, x.number(12));
+        x.undo();
+        x.pass(0);
+        x.undo();
+        x.serving(1, 0);
+        x.hinders(1, 0, 9);
+        x.saveSnapshot();
+        CHECK.fails("refused", UnsupportedOperationException.class, () -> x.serve(0));
+        CHECK.fails("wrong", IllegalArgumentException.class, () -> x.rule(9, 9));
+        x.feed('w');
+        CHECK.same("no changes", 7, x.number(12));
+        x.undo();
+        CHECK.same("the plan is undone", 0, x.orderOf(0, 5));
+        CHECK.same("the input stays", 1, x.number(13));
+    }
+
+    private static void promise32OfForgottenChanges() {
+        PilotRoster x = new PilotRoster();
+        for (int k = 1; k <= 12; k++) {
+            x.pass(k);
+            CHECK.same("changes", Math.min(k, 8), x.number(12));
+        }
+        for (int k = 7; k >= 3; k--) {
+            CHECK.same("undo", k, x.undo());
+        }
+        CHECK.same("now", 28, x.number(4));
+        x.pass(1);
+        CHECK.same("changes", 4, x.number(12));
+        CHECK.same("undo", 3, x.undo());
+        CHECK.same("undo", 2, x.undo());
+        CHECK.same("undo", 1, x.undo());
+        CHECK.same("undo", 0, x.undo());
+        CHECK.same("now", 10, x.number(4));
+        CHECK.fails("what was forgotten", IllegalStateException.class, () -> x.undo());
+    }
+
+    private static void promise33SaveSnapshot() {
+        PilotRoster x = new PilotRoster();
+        CHECK.same("saveSnapshot", 0, x.saveSnapshot());
+        x.order(1, true, 5, 0, 9);
+        x.order(1, true, 5, 0, 9);
+        CHECK.same("saveSnapshot", 2, x.saveSnapshot());
+        x.undo();
+        CHECK.same("changes", 1, x.number(12));
+        CHECK.same("the later one counts", 2, x.restoreSnapshot());
+        CHECK.same("orders", 2, x.number(0));
+    }
+
+    private static void promise34RestoreSnapshot() {
+        PilotRoster x = new PilotRoster();
+        x.rule(0, 7);
+        CHECK.fails("no snapshot", IllegalStateException.class, () -> x.restoreSnapshot());
+        CHECK.same("changes", 1, x.number(12));
+        x.saveSnapshot();
+        x.order(1, true, 5, 0, 9);
+        CHECK.same("restoreSnapshot", 0, x.restoreSnapshot());
+        CHECK.same("changes", 0, x.number(12));
+        CHECK.fails("nothing to undo", IllegalStateException.class, () -> x.undo());
+        CHECK.same("orders", 0, x.number(0));
+        x.order(2, true, 5, 0, 9);
+        CHECK.same("an order", 2, x.orderOf(0, 0));
+        CHECK.same("the snapshot is kept", 0, x.restoreSnapshot());
+        CHECK.same("orders", 0, x.number(0));
+        CHECK.same("rule", 7, x.number(20));
+    }
+
+    private static void promise34RestoresAll() {
+        PilotRoster x = example();
+        x.run(0, 3, 2);
+        x.rule(1, 5);
+        x.tide(2, 2);
+        x.pass(5);
+        x.putOff(1, 3);
+        String saved = told(x);
+        CHECK.same("saveSnapshot", 3, x.saveSnapshot());
+        x.pass(40);
+        x.serveAll();
+        x.rule(0, 9);
+        x.rule(3, 1);
+        x.tide(7, 0);
+        x.addPilot(1);
+        x.addBoat(4);
+        x.order(1, true, 1, 50, 60);
+        x.run(0, 60, 0);
+        CHECK.isTrue("much is different", !told(x).equals(saved));
+        CHECK.same("restoreSnapshot", 3, x.restoreSnapshot());
+        CHECK.isTrue("all is as it was", told(x).equals(saved));
+        x.serveAll();
+        x.undo();
+        CHECK.isTrue("all is as it was", told(x).equals(saved));
+        x.pass(30);
+        x.restoreSnapshot();
+        CHECK.isTrue("all is as it was again", told(x).equals(saved));
+    }
+}
