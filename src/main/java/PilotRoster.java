@@ -1325,7 +1325,6 @@ public final class PilotRoster {
 
         void clear() {
             length = 0;
-            at = 0;
         }
 
         void rewind() {

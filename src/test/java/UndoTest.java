@@ -1,3 +1,5 @@
+import java.util.NoSuchElementException;
+
 /** Promises 32 to 34: undo, snapshots. */
 public final class UndoTest {
     private static final Check CHECK = new Check("UndoTest");
@@ -10,6 +12,8 @@ public final class UndoTest {
         promise33SaveSnapshot();
         promise34RestoreSnapshot();
         promise34RestoresAll();
+        promise34NothingIsLeft();
+        promise34NumbersOfTheSnapshot();
         CHECK.end();
     }
 
@@ -216,5 +220,70 @@ public final class UndoTest {
         x.pass(30);
         x.restoreSnapshot();
         CHECK.isTrue("all is as it was again", told(x).equals(saved));
+    }
+
+    /** Two pilots, a boat and two orders in use: a trip under way, put off, runs and a ride. */
+    private static void use(PilotRoster x) {
+        x.addPilot(1);
+        x.addPilot(2);
+        x.addBoat(4);
+        x.rule(2, 2);
+        x.order(2, true, 5, 0, 90);
+        x.order(1, true, 5, 0, 90);
+        x.putOff(0, 9);
+        x.plan(0, 1, 0);
+        x.plan(1, 0, 3);
+        x.run(0, 0, 0);
+        x.run(0, 4, 2);
+        x.pass(5);
+    }
+
+    private static void promise34NothingIsLeft() {
+        PilotRoster x = new PilotRoster();
+        String empty = told(x);
+        x.saveSnapshot();
+        use(x);
+        CHECK.same("restoreSnapshot", 0, x.restoreSnapshot());
+        CHECK.isTrue("it is empty", told(x).equals(empty));
+        CHECK.fails("nothing is urgent", NoSuchElementException.class,
+                () -> x.urgent(0));
+        CHECK.fails("no trips", ArithmeticException.class, () -> x.meanWait());
+        x.order(1, false, 7, 0, 80);
+        CHECK.fails("nobody is left to serve", NoSuchElementException.class,
+                () -> x.serving(0, 0));
+        x.addPilot(2);
+        CHECK.fails("no boat is left to serve", NoSuchElementException.class,
+                () -> x.serving(0, 0));
+        x.addBoat(3);
+        x.addPilot(3);
+        x.order(3, true, 8, 1, 90);
+        PilotRoster y = new PilotRoster();
+        y.order(1, false, 7, 0, 80);
+        y.addPilot(2);
+        y.addBoat(3);
+        y.addPilot(3);
+        y.order(3, true, 8, 1, 90);
+        CHECK.isTrue("as made on a new object", told(x).equals(told(y)));
+        CHECK.same("a ride", 2, x.serving(0, 0));
+    }
+
+    private static void promise34NumbersOfTheSnapshot() {
+        PilotRoster x = new PilotRoster();
+        x.addPilot(1);
+        x.addBoat(4);
+        x.order(3, true, 12, 2, 70);
+        String saved = told(x);
+        x.saveSnapshot();
+        x.undo();
+        x.undo();
+        x.undo();
+        x.addPilot(4);
+        x.addBoat(1);
+        x.order(4, false, 5, 1, 60);
+        x.putOff(0, 3);
+        x.serve(0);
+        x.pass(20);
+        CHECK.same("restoreSnapshot", 1, x.restoreSnapshot());
+        CHECK.isTrue("the numbers of the snapshot", told(x).equals(saved));
     }
 }
