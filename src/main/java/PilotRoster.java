@@ -1347,9 +1347,7 @@ public final class PilotRoster {
 
         /** For an input that is a text. */
         void nextItem() {
-            if (at > 0) {
-                accept(';');
-            }
+            accept(';');
             readItem();
         }
 

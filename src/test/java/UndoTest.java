@@ -235,6 +235,7 @@ public final class UndoTest {
         x.plan(1, 0, 3);
         x.run(0, 0, 0);
         x.run(0, 4, 2);
+        x.run(0, 6, 0);
         x.pass(5);
     }
 
