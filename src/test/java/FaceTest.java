@@ -33,7 +33,9 @@ public final class FaceTest {
     public static void main(String[] args) throws IOException {
         members();
         names();
-        source(Files.readString(Path.of("src/main/java/PilotRoster.java")));
+        String text = Files.readString(Path.of("src/main/java/PilotRoster.java"));
+        source(text);
+        lengths(text.split("\n"));
         CHECK.end();
     }
 
@@ -83,9 +85,25 @@ public final class FaceTest {
             for (Method method : inside.getDeclaredMethods()) {
                 CHECK.isTrue(method + " bears a name of the face",
                         !names.contains(method.getName()));
+                CHECK.isTrue("parameters of " + method, method.getParameterCount() <= 7);
             }
         }
         CHECK.isTrue("classes", classes <= 12);
+    }
+
+    /** A method or constructor begins with its only or last line that ends with a brace. */
+    private static void lengths(String[] lines) {
+        Pattern begin = Pattern.compile("( {4}| {8})(?!private static final class)\\S.*\\{");
+        for (int k = 0; k < lines.length; k++) {
+            Matcher matcher = begin.matcher(lines[k]);
+            if (matcher.matches()) {
+                int end = k;
+                while (!lines[end].equals(matcher.group(1) + "}") && end - k <= 60) {
+                    end++;
+                }
+                CHECK.isTrue("longer than 60 lines: " + lines[k].trim(), end - k < 60);
+            }
+        }
     }
 
     private static void source(String text) {

@@ -1,8 +1,11 @@
-/** Long runs of mixed calls, each answer compared with that of PlainRoster. */
+/**
+ * Runs of mixed calls, as many as an object is for, each answer compared with that of
+ * PlainRoster; behind some shorter ones all that can be asked is compared, too.
+ */
 public final class ModelTest {
     private static final Check CHECK = new Check("ModelTest");
-    private static final int RUNS = 300;
-    private static final int CALLS = 500;
+    private static final int RUNS = 1500;
+    private static final int SHORT = 200;
 
     private static final String[] CHANGING = {
         "order", "order", "order", "plan", "plan", "plan", "plan", "run", "run", "serve", "serve",
@@ -15,11 +18,12 @@ public final class ModelTest {
     private static final int[] EDGES = {
         -1, 0, 1, 16, 48, 49, 899, 900, 901, 999, 1000, Integer.MAX_VALUE, Integer.MIN_VALUE};
 
-    private final PilotRoster roster = new PilotRoster();
+    private final Calls roster = new Calls();
     private final PlainRoster plain = new PlainRoster();
     private final StringBuilder calls = new StringBuilder();
     private final int run;
     private long seed;
+    private boolean isWrong;
 
     private ModelTest(int run) {
         this.run = run;
@@ -44,16 +48,24 @@ public final class ModelTest {
             compare("addPilot", 1 + below(4));
             compare("addBoat", 1 + below(4));
         }
-        for (int k = 0; k < CALLS; k++) {
-            boolean isSame = below(5) < 3 ? change() : ask(ASKING[below(ASKING.length)]);
-            if (!isSame || (k % 60 == 0 && !sweep())) {
-                return;
-            }
+        boolean isShort = run % 25 == 0;
+        int end = isShort ? Calls.MOST - SHORT : 0;
+        boolean isSame = true;
+        while (isSame && roster.left() > end) {
+            isSame = below(5) < 3 ? change() : ask(ASKING[below(ASKING.length)]);
+        }
+        if (isShort && !isWrong) {
+            compareWhole();
         }
     }
 
+    /** Asked of the other one, so that no call of the roster's is spent. */
+    private int told(String name, int... a) {
+        return (Integer) plain.call(name, a);
+    }
+
     private int now() {
-        return roster.number(4);
+        return told("number", 4);
     }
 
     private int soon() {
@@ -63,18 +75,18 @@ public final class ModelTest {
     private int orderNumber() {
         int orders = 0;
         for (int state = 0; state <= 3; state++) {
-            orders += roster.number(state);
+            orders += told("number", state);
         }
         return below(20) == 0 ? EDGES[below(EDGES.length)] : below(orders + 1);
     }
 
     private int openOrder() {
-        int open = roster.number(0);
-        return open == 0 || below(4) == 0 ? orderNumber() : roster.urgent(below(open));
+        int open = told("number", 0);
+        return open == 0 || below(4) == 0 ? orderNumber() : told("urgent", below(open));
     }
 
     private int pilotNumber() {
-        return below(20) == 0 ? EDGES[below(EDGES.length)] : below(roster.number(5) + 1);
+        return below(20) == 0 ? EDGES[below(EDGES.length)] : below(told("number", 5) + 1);
     }
 
     private int boatNumber() {
@@ -114,14 +126,14 @@ public final class ModelTest {
     /** Mostly at an hour at which it could be possible. */
     private boolean plan(String name, int order, int pilot) {
         int hour = soon();
-        if (below(4) != 0 && pilot >= 0 && pilot < roster.number(5)) {
-            hour = Math.max(now(), roster.pilot(pilot, 4 + below(2))) + below(3);
+        if (below(4) != 0 && pilot >= 0 && pilot < told("number", 5)) {
+            hour = Math.max(now(), told("pilot", pilot, 4 + below(2))) + below(3);
         }
         return compare(name, order, pilot, hour);
     }
 
     private int riders() {
-        int sets = 1 << roster.number(5);
+        int sets = 1 << told("number", 5);
         return below(20) == 0 ? EDGES[below(EDGES.length)] : below(3) == 0 ? 0 : below(sets);
     }
 
@@ -177,92 +189,38 @@ public final class ModelTest {
         }
     }
 
-    /** All that can be asked, at least once. */
-    private boolean sweep() {
-        boolean isSame = true;
-        for (int what = 0; what <= 41; what++) {
-            isSame = isSame && compare("number", what);
-        }
-        for (int order = 0; order < 16; order++) {
-            for (int what = 0; what <= 10; what++) {
-                isSame = isSame && compare("orderOf", order, what);
-            }
-            for (int what = 0; what <= 2; what++) {
-                isSame = isSame && compare("serving", order, what);
-            }
-            isSame = isSame && compare("urgent", order);
-        }
-        for (int pilot = 0; pilot < 6; pilot++) {
-            for (int what = 0; what <= 6; what++) {
-                isSame = isSame && compare("pilot", pilot, what);
-            }
-            for (int k = 0; k < 8; k++) {
-                isSame = isSame && compare("planOf", pilot, below(30), k % 5)
-                        && place(pilot, now() + 4 * k - 10);
-            }
-            isSame = isSame && compare("share", pilot);
-        }
-        for (int what = 0; what < 15; what++) {
-            isSame = isSame && compare("boat", what / 5, what % 5);
-        }
-        return isSame && compare("meanWait");
-    }
-
     private boolean compare(String name, int... a) {
-        Object due = plain.call(name, a);
-        Object got;
-        try {
-            got = answer(name, a);
-        } catch (RuntimeException thrown) {
-            got = thrown.getClass();
+        if (roster.left() == 0) {
+            return false;
         }
-        calls.append(name).append(java.util.Arrays.toString(a)).append(' ');
+        Object due = plain.call(name, a);
+        Object got = roster.call(name, a);
+        calls.append(calls.length() == 0 ? "" : ", ").append(due instanceof Class ? "!" : "");
+        calls.append(name);
+        for (int number : a) {
+            calls.append(' ').append(number);
+        }
         if (due.equals(got)) {
             CHECK.same(name, 0, 0);
             return true;
         }
-        String all = calls.toString();
-        CHECK.tell("run " + run + ": .. " + all.substring(Math.max(0, all.length() - 300))
-                + " answered " + got + ", due is " + due);
+        isWrong = true;
+        CHECK.tell("run " + run + ": .. " + tail() + " answered " + got + ", due is " + due);
         return false;
     }
 
-    private Object answer(String name, int[] a) {
-        switch (name) {
-            case "rule": return roster.rule(a[0], a[1]);
-            case "tide": return roster.tide(a[0], a[1]);
-            case "depth": return roster.depth(a[0]);
-            case "addPilot": return roster.addPilot(a[0]);
-            case "addBoat": return roster.addBoat(a[0]);
-            case "order": return roster.order(a[0], a[1] == 1, a[2], a[3], a[4]);
-            case "orderOf": return roster.orderOf(a[0], a[1]);
-            case "window": return roster.window(a[0], a[1]);
-            case "hinders": return roster.hinders(a[0], a[1], a[2]);
-            case "plan": return roster.plan(a[0], a[1], a[2]);
-            case "run": return roster.run(a[0], a[1], a[2]);
-            case "serving": return roster.serving(a[0], a[1]);
-            case "serve": return roster.serve(a[0]);
-            case "serveAll": return roster.serveAll();
-            case "release": return roster.release(a[0]);
-            case "putOff": return roster.putOff(a[0], a[1]);
-            case "urgent": return roster.urgent(a[0]);
-            case "pilot": return roster.pilot(a[0], a[1]);
-            case "planOf": return roster.planOf(a[0], a[1], a[2]);
-            case "place": return roster.place(a[0], a[1]);
-            case "placeAgain": return roster.placeAgain(a[0], a[1]);
-            case "boat": return roster.boat(a[0], a[1]);
-            case "pass": return roster.pass(a[0]);
-            case "number": return roster.number(a[0]);
-            case "meanWait": return roster.meanWait();
-            case "share": return roster.share(a[0]);
-            case "feed": return roster.feed((char) a[0]);
-            case "read": return roster.read();
-            case "faultPosition": return roster.faultPosition();
-            case "refusal": return roster.refusal(a[0] == 1);
-            case "undo": return roster.undo();
-            case "saveSnapshot": return roster.saveSnapshot();
-            case "restoreSnapshot": return roster.restoreSnapshot();
-            default: throw new AssertionError(name);
-        }
+    private void compareWhole() {
+        Whole due = new Whole(calls.toString(), PlainRoster::new);
+        Whole got = new Whole(calls.toString());
+        CHECK.isTrue("run " + run + ": the state behind .. " + tail(),
+                due.state().equals(got.state()));
+        CHECK.isTrue("run " + run + ": the input behind .. " + tail(),
+                due.input().equals(got.input()));
+        CHECK.isTrue("run " + run + ": what is kept behind .. " + tail(),
+                due.fault().equals(got.fault()) && due.refusal().equals(got.refusal()));
+    }
+
+    private String tail() {
+        return calls.substring(Math.max(0, calls.length() - 300));
     }
 }

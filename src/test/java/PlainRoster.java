@@ -11,7 +11,7 @@ import java.util.regex.Pattern;
  * The document once more, in another way: all that can be found by trying is tried hour by hour,
  * and every state is a deep copy. ModelTest compares it with PilotRoster.
  */
-final class PlainRoster {
+final class PlainRoster implements Answering {
     private static final Pattern TEXT = Pattern.compile("ITEM(;ITEM)*".replace("ITEM",
             "([1-4][io][0-9]{1,3}@[0-9]{1,3}-[0-9]{1,3}|s[0-9]{1,3}"
                     + "|d[0-9]{1,3}\\+[0-9]{1,3}|w[0-9]{1,3})"));
@@ -97,9 +97,9 @@ final class PlainRoster {
     private int reason;
     private int item;
 
-    /** Carries a call out: an Integer, Double or Float, or the class of what is thrown. */
-    Object call(String name, int... a) {
-        State ahead = s.copy();
+    @Override
+    public Object call(String name, int... a) {
+        State ahead = isChange(name) ? s.copy() : s;
         try {
             Object answer = answer(name, a);
             if (isChange(name)) {

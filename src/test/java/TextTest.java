@@ -150,17 +150,19 @@ public final class TextTest {
     }
 
     private static void promise29OtherExceptions() {
-        PilotRoster x = new PilotRoster();
-        x.pass(5);
-        x.order(1, true, 5, 5, 30);
         String[] texts = {
             "s1", "s999", "d1+1", "d0+0", "d0+49", "d0+999", "w49", "w999", "1i0@5-9", "1o31@5-9",
             "1o5@4-9", "1o5@9-8", "1o5@9-901"};
         for (String text : texts) {
-            refused(x, text, 20, 0);
-            refused(x, "w0;" + text, 20, 1);
+            PilotRoster y = new PilotRoster();
+            y.pass(5);
+            y.order(1, true, 5, 5, 30);
+            refused(y, text, 20, 0);
+            refused(y, "w0;" + text, 20, 1);
         }
-        for (int k = 1; k < 16; k++) {
+        PilotRoster x = new PilotRoster();
+        x.pass(5);
+        for (int k = 0; k < 16; k++) {
             x.order(1, true, 5, 5, 30);
         }
         refused(x, "w0;1o5@9-9", 20, 1);
@@ -174,8 +176,8 @@ public final class TextTest {
     }
 
     private static void promise30FaultPosition() {
-        PilotRoster x = new PilotRoster();
-        CHECK.fails("no fault", NoSuchElementException.class, () -> x.faultPosition());
+        CHECK.fails("no fault", NoSuchElementException.class,
+                () -> new PilotRoster().faultPosition());
         Object[][] faults = {
             {"", 0}, {"0i1@1-1", 0}, {"5", 0}, {";", 0}, {"i", 0}, {" w1", 0}, {"W1", 0},
             {"1", 1}, {"1s", 1}, {"11", 1}, {"1i", 2}, {"1ix", 2}, {"1o@", 2},
@@ -189,9 +191,10 @@ public final class TextTest {
             {"w/", 1}, {"w:", 1}, {"w1;w1;w1;w1;w1;w1;w1;w1;w1;w1;w1;w1;w1;w1;w1;w1;w1;w1;w1;ww", 58},
         };
         for (Object[] row : faults) {
+            PilotRoster x = new PilotRoster();
             fault(x, (String) row[0], (Integer) row[1]);
+            CHECK.same("now", 0, x.number(4));
         }
-        CHECK.same("now", 0, x.number(4));
     }
 
     private static void promise30FaultPositionIsKept() {

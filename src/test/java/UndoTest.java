@@ -6,7 +6,6 @@ public final class UndoTest {
 
     public static void main(String[] args) {
         promise32Undo();
-        promise32UndoOfEachChange();
         promise32WhatIsNoChange();
         promise32OfForgottenChanges();
         promise33SaveSnapshot();
@@ -15,12 +14,6 @@ public final class UndoTest {
         promise34NothingIsLeft();
         promise34NumbersOfTheSnapshot();
         CHECK.end();
-    }
-
-    private static void feed(PilotRoster x, String text) {
-        for (int k = 0; k < text.length(); k++) {
-            x.feed(text.charAt(k));
-        }
     }
 
     /** All that can be asked of the state, without what is neither undone nor saved. */
@@ -65,38 +58,6 @@ public final class UndoTest {
         x.order(2, true, 5, 2, 20);
         x.plan(0, 0, 4);
         return x;
-    }
-
-    private static void undone(PilotRoster x, String what, Runnable change) {
-        String ahead = told(x);
-        int changes = x.number(12);
-        change.run();
-        CHECK.isTrue(what + " changes something", !told(x).equals(ahead));
-        int count = Math.min(8, changes + 1);
-        CHECK.same("changes with " + what, count, x.number(12));
-        CHECK.same("undo of " + what, count - 1, x.undo());
-        CHECK.isTrue(what + " is undone", told(x).equals(ahead));
-        change.run();
-    }
-
-    private static void promise32UndoOfEachChange() {
-        PilotRoster x = example();
-        undone(x, "rule", () -> x.rule(0, 7));
-        undone(x, "tide", () -> x.tide(0, 7));
-        undone(x, "addPilot", () -> x.addPilot(3));
-        undone(x, "addBoat", () -> x.addBoat(3));
-        undone(x, "order", () -> x.order(1, false, 5, 0, 9));
-        undone(x, "plan", () -> x.plan(2, 1, 3));
-        undone(x, "run", () -> x.run(0, 3, 4));
-        undone(x, "release", () -> x.release(2));
-        undone(x, "putOff", () -> x.putOff(1, 5));
-        undone(x, "serve", () -> x.serve(1));
-        undone(x, "serveAll", () -> x.serveAll());
-        undone(x, "pass", () -> x.pass(48));
-        undone(x, "read", () -> {
-            feed(x, "w5;1o5@60-70;d4+1");
-            x.read();
-        });
     }
 
     private static void promise32Undo() {
@@ -213,9 +174,6 @@ public final class UndoTest {
         x.run(0, 60, 0);
         CHECK.isTrue("much is different", !told(x).equals(saved));
         CHECK.same("restoreSnapshot", 3, x.restoreSnapshot());
-        CHECK.isTrue("all is as it was", told(x).equals(saved));
-        x.serveAll();
-        x.undo();
         CHECK.isTrue("all is as it was", told(x).equals(saved));
         x.pass(30);
         x.restoreSnapshot();
