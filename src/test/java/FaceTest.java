@@ -36,7 +36,46 @@ public final class FaceTest {
         String text = Files.readString(Path.of("src/main/java/PilotRoster.java"));
         source(text);
         lengths(text.split("\n"));
+        String document = Files.readString(Path.of("../shared/DOC.md"));
+        faceOfTheDocument(document, text);
+        partsOfTheFace(document, text);
         CHECK.end();
+    }
+
+    /** Each line of the public face stands in the program, its names and exceptions, too. */
+    private static void faceOfTheDocument(String document, String text) {
+        String code = text.replaceAll("\\s+", " ");
+        Matcher line = Pattern.compile("(?m)^    (public .*);$").matcher(document);
+        int lines = 0;
+        while (line.find()) {
+            lines++;
+            CHECK.isTrue("not as the document writes it: " + line.group(1),
+                    code.contains(" " + line.group(1) + " {"));
+        }
+        CHECK.same("the lines of the face", FACE.length + 1, lines);
+    }
+
+    /** "Ahead of the calls .. the interface says: ---- ..": no other calls stand in this part. */
+    private static void partsOfTheFace(String document, String text) {
+        Matcher part = Pattern.compile(
+                "Ahead of the calls (.*) the interface says: (---- .*)\\.\n").matcher(document);
+        int parts = 0;
+        while (part.find()) {
+            parts++;
+            int begin = text.indexOf("    // " + part.group(2) + "\n");
+            int end = text.indexOf("    // ----", begin + 1);
+            StringBuilder calls = new StringBuilder();
+            Matcher call = Pattern.compile("    public \\w+ (\\w+)\\(").matcher(text);
+            while (begin >= 0 && call.find()) {
+                if (call.start() > begin && call.start() < end) {
+                    calls.append(calls.length() == 0 ? "`" : ", `").append(call.group(1))
+                            .append('`');
+                }
+            }
+            CHECK.isTrue(part.group(2) + " stands ahead of " + calls,
+                    part.group(1).contentEquals(calls));
+        }
+        CHECK.same("the parts of the face", 6, parts);
     }
 
     private static void members() {
